@@ -76,12 +76,13 @@ public final class ServiceManager {
     private int length;
     private int latestError;
     private final Reader reader = new Reader();
-    private final Setup setup = new Setup();
-    private final Transaction transaction = new Transaction(setup);
-    private final World real = new World(setup, transaction);
-    private final World trial = new World(setup, transaction);
-    private final Snapshot firstSnapshot = new Snapshot(transaction);
-    private final Snapshot secondSnapshot = new Snapshot(transaction);
+    private final World real = new World();
+    /** The world of predictions. */
+    private final World trial = new World();
+    private final World firstSnapshot = new World();
+    private final World secondSnapshot = new World();
+    private boolean firstIsSaved;
+    private boolean secondIsSaved;
 
     public ServiceManager() {
         length = 0;
@@ -118,9 +119,8 @@ public final class ServiceManager {
         if (!good) {
             return -100 - reader.errorPosition;
         }
-        setup.copyFrom(reader.draft);
-        real.beginAnew();
-        return setup.count;
+        real.beginAnew(reader.draft);
+        return real.setup.count;
     }
 
     public int loadError() {
@@ -130,41 +130,41 @@ public final class ServiceManager {
     public int find() {
         int bytes = length;
         length = 0;
-        return setup.named(buffer, 0, bytes);
+        return real.setup.named(buffer, 0, bytes);
     }
 
     public int unitCount() {
-        return setup.count;
+        return real.setup.count;
     }
 
     public int kindOf(int unit) throws IndexOutOfBoundsException {
         checkUnit(unit);
-        return setup.kind[unit];
+        return real.setup.kind[unit];
     }
 
     public int nameLetter(int unit, int index) throws IndexOutOfBoundsException {
         checkUnit(unit);
-        if (index < 0 || index >= setup.nameLength[unit]) {
+        if (index < 0 || index >= real.setup.nameLength[unit]) {
             return NONE;
         }
-        return setup.letters[unit * MOST_LETTERS + index];
+        return real.setup.letters[unit * MOST_LETTERS + index];
     }
 
     public int property(int unit, int what) throws IndexOutOfBoundsException, IllegalArgumentException {
         checkUnit(unit);
         checkRange(what, 0, PROPERTIES - 1);
-        return setup.kind[unit] == SERVICE ? setup.properties[unit * PROPERTIES + what] : NONE;
+        return real.setup.kind[unit] == SERVICE ? real.setup.properties[unit * PROPERTIES + what] : NONE;
     }
 
     public int related(int unit, int relation) throws IndexOutOfBoundsException, IllegalArgumentException {
         checkUnit(unit);
         checkRange(relation, 0, RELATIONS - 1);
-        return setup.relations[relation][unit];
+        return real.setup.relations[relation][unit];
     }
 
     public int serviceOf(int unit) throws IndexOutOfBoundsException {
         checkUnit(unit);
-        return setup.service[unit];
+        return real.setup.service[unit];
     }
 
     // ---- jobs
@@ -200,15 +200,15 @@ public final class ServiceManager {
         checkUnit(unit);
         checkRange(type, START, RESTART);
         checkRange(which, 0, 4);
-        int failure = transaction.build(real, unit, type);
-        return failure != 0 ? failure : transaction.jobsOf(which);
+        int failure = real.transaction.build(real, unit, type);
+        return failure != 0 ? failure : real.transaction.jobsOf(which);
     }
 
     public int planDepth(int unit, int type) throws IndexOutOfBoundsException, IllegalArgumentException {
         checkUnit(unit);
         checkRange(type, START, RESTART);
-        int failure = transaction.build(real, unit, type);
-        return failure != 0 ? failure : transaction.longestChain();
+        int failure = real.transaction.build(real, unit, type);
+        return failure != 0 ? failure : real.transaction.longestChain();
     }
 
     public int cancel(int unit) throws IndexOutOfBoundsException {
@@ -233,7 +233,7 @@ public final class ServiceManager {
 
     public int precedingJobs(int unit) throws IndexOutOfBoundsException {
         checkUnit(unit);
-        return setup.preceding(unit, real.jobs.starts, real.jobs.stops);
+        return real.setup.preceding(unit, real.jobs.starts, real.jobs.stops);
     }
 
     public int queueLength() {
@@ -263,7 +263,7 @@ public final class ServiceManager {
     public int connect(int unit, int count) throws IndexOutOfBoundsException, IllegalArgumentException {
         checkUnit(unit);
         checkRange(count, 1, 100);
-        if (setup.kind[unit] != SOCKET || real.state[unit] != ACTIVE) {
+        if (real.setup.kind[unit] != SOCKET || real.state[unit] != ACTIVE) {
             return WRONG_STATE;
         }
         int taken = real.letArrive(unit, count);
@@ -343,22 +343,22 @@ public final class ServiceManager {
 
     public int recentBegins(int unit) throws IndexOutOfBoundsException {
         checkUnit(unit);
-        return setup.kind[unit] == SERVICE ? real.beginsInInterval(unit) : NONE;
+        return real.setup.kind[unit] == SERVICE ? real.beginsInInterval(unit) : NONE;
     }
 
     public int queued(int unit) throws IndexOutOfBoundsException {
         checkUnit(unit);
-        return setup.kind[unit] == SOCKET ? real.queue[unit] : NONE;
+        return real.setup.kind[unit] == SOCKET ? real.queue[unit] : NONE;
     }
 
     public int accepted(int unit) throws IndexOutOfBoundsException {
         checkUnit(unit);
-        return setup.kind[unit] == SOCKET ? real.served[unit] : NONE;
+        return real.setup.kind[unit] == SOCKET ? real.served[unit] : NONE;
     }
 
     public int lost(int unit) throws IndexOutOfBoundsException {
         checkUnit(unit);
-        return setup.kind[unit] == SOCKET ? real.turnedAway[unit] : NONE;
+        return real.setup.kind[unit] == SOCKET ? real.turnedAway[unit] : NONE;
     }
 
     public int logSize() {
@@ -374,22 +374,22 @@ public final class ServiceManager {
 
     public int allNeeded(int unit) throws IndexOutOfBoundsException {
         checkUnit(unit);
-        return reach(setup.needs, setup.needs[unit]);
+        return reach(real.setup.needs, real.setup.needs[unit]);
     }
 
     public int allStopped(int unit) throws IndexOutOfBoundsException {
         checkUnit(unit);
-        return reach(setup.followers, 1 << unit);
+        return reach(real.setup.followers, 1 << unit);
     }
 
     public int orderingCircle() {
-        return inCircles(setup.relations[AFTER]);
+        return inCircles(real.setup.relations[AFTER]);
     }
 
     public boolean isSound() {
         int active = real.unitsIn(1 << ACTIVE);
-        for (int unit = 0; unit < setup.count; unit++) {
-            if ((active >> unit & 1) != 0 && (setup.needs[unit] & ~active) != 0) {
+        for (int unit = 0; unit < real.setup.count; unit++) {
+            if ((active >> unit & 1) != 0 && (real.setup.needs[unit] & ~active) != 0) {
                 return false;
             }
         }
@@ -444,7 +444,7 @@ public final class ServiceManager {
     public int weakest() {
         int weakest = NONE;
         int most = -1;
-        for (int unit = 0; unit < setup.count; unit++) {
+        for (int unit = 0; unit < real.setup.count; unit++) {
             int damage = 0;
             if (real.canCrash(unit)) {
                 trial.copyFrom(real);
@@ -462,34 +462,36 @@ public final class ServiceManager {
 
     public int criticalTime(int unit) throws IndexOutOfBoundsException {
         checkUnit(unit);
-        int failure = transaction.build(real, unit, START);
-        return failure != 0 ? failure : transaction.longestStartup();
+        int failure = real.transaction.build(real, unit, START);
+        return failure != 0 ? failure : real.transaction.longestStartup(real.setup);
     }
 
     public int saveSnapshot(int slot) throws IllegalArgumentException {
         checkRange(slot, 0, 1);
-        Snapshot snapshot = slot == 0 ? firstSnapshot : secondSnapshot;
-        snapshot.setup.copyFrom(setup);
-        snapshot.world.copyFrom(real);
-        snapshot.filled = true;
+        if (slot == 0) {
+            firstSnapshot.copyFrom(real);
+            firstIsSaved = true;
+        } else {
+            secondSnapshot.copyFrom(real);
+            secondIsSaved = true;
+        }
         return real.now;
     }
 
     public int restoreSnapshot(int slot) throws IllegalArgumentException {
         checkRange(slot, 0, 1);
-        Snapshot snapshot = slot == 0 ? firstSnapshot : secondSnapshot;
-        if (!snapshot.filled) {
+        boolean isSaved = slot == 0 ? firstIsSaved : secondIsSaved;
+        if (!isSaved) {
             return NONE;
         }
-        setup.copyFrom(snapshot.setup);
-        real.copyFrom(snapshot.world);
+        real.copyFrom(slot == 0 ? firstSnapshot : secondSnapshot);
         return real.now;
     }
 
     // ---- what several methods share
 
     private void checkUnit(int unit) {
-        if (unit < 0 || unit >= setup.count) {
+        if (unit < 0 || unit >= real.setup.count) {
             throw new IndexOutOfBoundsException("there is no such unit");
         }
     }
@@ -964,7 +966,6 @@ public final class ServiceManager {
      */
     private static final class Transaction {
 
-        private final Setup setup;
         /** The jobs to start or to restart, those of them to restart, and the jobs to stop. */
         private int starts;
         private int restarting;
@@ -975,16 +976,13 @@ public final class ServiceManager {
         private int leftOutStarts;
         private int leftOutStops;
         private final int[] before = new int[MOST_UNITS];
+        private final int[] weight = new int[MOST_UNITS];
         private final int[] total = new int[MOST_UNITS];
-
-        private Transaction(Setup itsSetup) {
-            setup = itsSetup;
-        }
 
         /** Builds the transaction of a call; answers 0, or the code with which it fails. */
         private int build(World world, int unit, int type) {
             int alive = 1 << ACTIVATING | 1 << ACTIVE | 1 << DEACTIVATING | 1 << AWAITING;
-            collectEssential(unit, type, world.unitsIn(alive));
+            collectEssential(world.setup, unit, type, world.unitsIn(alive));
             if ((essentialStarts & world.masked) != 0) {
                 return MASKED;
             }
@@ -998,7 +996,7 @@ public final class ServiceManager {
             leftOutStops = 0;
             // each time but the last one bans a job, and there are two for each unit
             for (int bans = 0; bans <= 2 * MOST_UNITS; bans++) {
-                collectAll();
+                collectAll(world.setup);
                 int torn = starts & stops;
                 if (torn != 0) {
                     banOneOf(torn & -torn);
@@ -1006,7 +1004,8 @@ public final class ServiceManager {
                 }
                 starts &= ~needlessStarts;
                 stops &= ~needlessStops;
-                int circles = inCycles();
+                noteBefore(world.setup);
+                int circles = inCircles(before);
                 if (circles == 0) {
                     return 0;
                 }
@@ -1019,7 +1018,7 @@ public final class ServiceManager {
             return CYCLE;
         }
 
-        private void collectEssential(int unit, int type, int alive) {
+        private void collectEssential(Setup setup, int unit, int type, int alive) {
             starts = type == STOP ? 0 : 1 << unit;
             restarting = type == RESTART ? 1 << unit : 0;
             stops = type == STOP ? 1 << unit : 0;
@@ -1049,7 +1048,7 @@ public final class ServiceManager {
             essentialStops = stops;
         }
 
-        private void collectAll() {
+        private void collectAll(Setup setup) {
             starts = essentialStarts;
             stops = essentialStops;
             for (int round = 0; round <= 2 * MOST_UNITS; round++) {
@@ -1095,18 +1094,11 @@ public final class ServiceManager {
             return bit;
         }
 
-        /** The units whose jobs are in cycles; notes for each job which ones precede it. */
-        private int inCycles() {
+        /** Notes which jobs precede each job. */
+        private void noteBefore(Setup setup) {
             for (int unit = 0; unit < MOST_UNITS; unit++) {
                 before[unit] = setup.preceding(unit, starts, stops);
             }
-            int circles = 0;
-            for (int unit = 0; unit < MOST_UNITS; unit++) {
-                if (before[unit] != 0) {
-                    circles |= reach(before, before[unit]) & 1 << unit;
-                }
-            }
-            return circles;
         }
 
         private int essentialJobs() {
@@ -1141,16 +1133,23 @@ public final class ServiceManager {
 
         /** The number of jobs in the longest chain. */
         private int longestChain() {
-            return greatestTotal(starts | stops, false);
+            for (int unit = 0; unit < MOST_UNITS; unit++) {
+                weight[unit] = 1;
+            }
+            return greatestTotal(starts | stops);
         }
 
         /** The greatest sum of startup in a chain of jobs to start or restart. */
-        private int longestStartup() {
-            return greatestTotal(starts, true);
+        private int longestStartup(Setup setup) {
+            for (int unit = 0; unit < MOST_UNITS; unit++) {
+                boolean counts = setup.kind[unit] == SERVICE;
+                weight[unit] = counts ? setup.properties[unit * PROPERTIES + STARTUP] : 0;
+            }
+            return greatestTotal(starts);
         }
 
-        /** The greatest sum over a chain among these units, of startup or of 1 for each. */
-        private int greatestTotal(int among, boolean byStartup) {
+        /** The greatest sum of weights in a chain of jobs of these units. */
+        private int greatestTotal(int among) {
             for (int unit = 0; unit < MOST_UNITS; unit++) {
                 total[unit] = 0;
             }
@@ -1159,17 +1158,12 @@ public final class ServiceManager {
             for (int round = 0; round < MOST_UNITS; round++) {
                 for (int unit = 0; unit < MOST_UNITS; unit++) {
                     if ((among >> unit & 1) != 0) {
-                        int own = byStartup ? startupOf(unit) : 1;
-                        total[unit] = own + greatestOf(before[unit] & among);
+                        total[unit] = weight[unit] + greatestOf(before[unit] & among);
                         greatest = Math.max(greatest, total[unit]);
                     }
                 }
             }
             return greatest;
-        }
-
-        private int startupOf(int unit) {
-            return setup.kind[unit] == SERVICE ? setup.properties[unit * PROPERTIES + STARTUP] : 0;
         }
 
         private int greatestOf(int set) {
@@ -1265,19 +1259,7 @@ public final class ServiceManager {
         }
     }
 
-    /** A copy of everything that a snapshot holds. */
-    private static final class Snapshot {
-
-        private final Setup setup = new Setup();
-        private final World world;
-        private boolean filled;
-
-        private Snapshot(Transaction transaction) {
-            world = new World(setup, transaction);
-        }
-    }
-
-    /** The states of the units at a time, and what happens to them. */
+    /** Everything that a snapshot holds: the units, their states at a time, and what happens to them. */
     private static final class World {
 
         /** BURST is at most 9, so older begins never count. */
@@ -1286,8 +1268,8 @@ public final class ServiceManager {
         private static final int LOG_PARTS = 3;
         private static final int NO_TIME = Integer.MAX_VALUE;
 
-        private final Setup setup;
-        private final Transaction transaction;
+        private final Setup setup = new Setup();
+        private final Transaction transaction = new Transaction();
         private final Jobs jobs = new Jobs();
         private int now;
         private int masked;
@@ -1309,12 +1291,8 @@ public final class ServiceManager {
         private final int[] log = new int[MOST_LOGGED * LOG_PARTS];
         private int logged;
 
-        private World(Setup itsSetup, Transaction itsTransaction) {
-            setup = itsSetup;
-            transaction = itsTransaction;
-        }
-
-        private void beginAnew() {
+        private void beginAnew(Setup newSetup) {
+            setup.copyFrom(newSetup);
             jobs.clear();
             logged = 0;
             now = 0;
@@ -1335,6 +1313,7 @@ public final class ServiceManager {
         }
 
         private void copyFrom(World other) {
+            setup.copyFrom(other.setup);
             jobs.copyFrom(other.jobs);
             now = other.now;
             masked = other.masked;
