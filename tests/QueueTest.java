@@ -113,6 +113,20 @@ public final class QueueTest {
         stands("b is down, and then up again", manager, "2220", "0/4 0/0 0/0 0/-1");
     }
 
+    private static void startOfWhatIsActive() {
+        ServiceManager manager = Check.made("service a;service b stopping 5;b after a");
+        manager.start(0, false);
+        manager.start(1, false);
+        manager.stop(1, false);
+        manager.stop(0, false);
+        CHECK.due("start() of what is active and was to stop", manager.start(0, true), 1);
+        stands("the start waits for the stop of b", manager, "23", "1/4 2*/0");
+        manager.advance(5);
+        stands("then there is nothing to do for it", manager, "20", "0/0 0/0");
+        CHECK.due("begins(a)", manager.begins(0), 1);
+        CHECK.due("since(a)", manager.since(0), 0);
+    }
+
     private static void runsAfterCancel() {
         ServiceManager manager = Check.made("service a startup 9;service b;service c;b after a;c after b");
         manager.start(0, false);
@@ -273,6 +287,7 @@ public final class QueueTest {
         stopsFirst();
         cancelling();
         cancelsAStop();
+        startOfWhatIsActive();
         runsAfterCancel();
         failedByDependencies();
         requirements();

@@ -69,6 +69,20 @@ public final class SnapshotsTest {
         manager.start(2, false);
         CHECK.due("the third one does not", manager.stateOf(2), 2);
         CHECK.due("recentBegins()", manager.recentBegins(2), 3);
+        manager = Check.made("service a limit 9 1000");
+        manager.saveSnapshot(0);
+        for (int begin = 0; begin < 9; begin++) {
+            manager.advance(100);
+            manager.restart(0, false);
+        }
+        manager.saveSnapshot(1);
+        manager.restoreSnapshot(0);
+        manager.start(0, false);
+        manager.restoreSnapshot(1);
+        manager.advance(199);
+        CHECK.due("the times of the begins", manager.recentBegins(0), 9);
+        manager.advance(1);
+        CHECK.due("when one is too old", manager.recentBegins(0), 8);
     }
 
     private static void acrossTexts() {

@@ -145,6 +145,20 @@ public final class TextTest {
         CHECK.due("everything after another text", Check.everything(manager),
             Check.everything(Check.made("service a; service b; socket s a 5")));
         CHECK.due("begins() after another text", manager.begins(0), 0);
+        manager = Check.made("service a run 2 restart always;socket s a 9;service b stopping 9;a after b;b after s;b requires a");
+        manager.start(0, false);
+        manager.start(1, false);
+        manager.advance(3);
+        manager.start(2, false);
+        manager.stop(0, false);
+        manager.connect(1, 4);
+        CHECK.due("a has been restarted", manager.restarts(0), 1);
+        CHECK.due("b is to stop, and a to start after that", manager.queueLength(), 2);
+        Check.reload(manager, "service a;socket s a 9;service b");
+        CHECK.due("everything after a third text", Check.everything(manager), Check.everything(Check.made("service a;socket s a 9;service b")));
+        CHECK.due("allStopped() after a third text", manager.allStopped(0), 0b001);
+        CHECK.due("allNeeded() after a third text", manager.allNeeded(2), 0);
+        CHECK.due("orderingCircle() after a third text", manager.orderingCircle(), 0);
         CHECK.due("logEntry() after another text", manager.logEntry(0, 0), ServiceManager.NONE);
     }
 

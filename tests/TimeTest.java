@@ -228,6 +228,13 @@ public final class TimeTest {
         stands("c is bound to a", manager, 5, "02420");
         CHECK.due("connect() starts a", manager.connect(1, 2), 2);
         CHECK.due("accepted(s)", manager.accepted(1), 3);
+        manager = Check.made("service a idle 3");
+        manager.start(0, false);
+        manager.kill(0, 8);
+        manager.start(0, false);
+        unit("a has failed before", manager, 0, 2, 1, 8, 0, 3);
+        manager.advance(3);
+        unit("and then goes with success", manager, 0, 0, 0, 8, 3, NONE);
         manager = Check.made("service a run 4 idle 4 exit 6;service b idle 4 run 5 exit 6;socket s a 1");
         manager.start(0, false);
         manager.start(1, false);

@@ -247,11 +247,14 @@ public final class TransactionsTest {
         CHECK.due("everything after BUSY", Check.everything(manager), before);
         CHECK.due("plan() knows no BUSY", manager.plan(0, STOP, 0), 0b01);
         CHECK.due("start() of what starts", manager.start(0, false), 1);
+        CHECK.due("it runs on", manager.isRunning(0), true);
         CHECK.due("restart() of what starts", manager.restart(0, false), 1);
         CHECK.due("its job", manager.jobOf(0), RESTART);
         CHECK.due("start() of what restarts", manager.start(0, false), 1);
         CHECK.due("its job stays", manager.jobOf(0), RESTART);
         CHECK.due("and is running", manager.isRunning(0), true);
+        CHECK.due("restart() of what restarts", manager.restart(0, false), 1);
+        CHECK.due("it is running still", manager.isRunning(0), true);
         CHECK.due("stop() of what restarts", manager.stop(0, false), ServiceManager.BUSY);
         CHECK.due("stop() that replaces", manager.stop(0, true), 1);
         CHECK.due("the outcome of the restart", manager.outcomeOf(0), 4);
