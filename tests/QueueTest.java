@@ -127,6 +127,29 @@ public final class QueueTest {
         CHECK.due("since(a)", manager.since(0), 0);
     }
 
+    private static void startOfWhatIsActivating() {
+        ServiceManager manager = Check.made("service a startup 9;service b stopping 5;b after a");
+        manager.start(1, false);
+        manager.start(0, false);
+        manager.stop(0, true);
+        stands("a has gone down, as b does not stop", manager, "02", "0/0 0/0");
+        manager.start(0, false);
+        manager.restart(1, false);
+        stands("b restarts after a", manager, "12", "1*/0 3/0");
+        manager.stop(1, true);
+        manager.stop(0, true);
+        stands("a is to stop after b", manager, "13", "2/4 2*/4");
+        CHECK.due("cancel() of the stop", manager.cancel(0), 1);
+        stands("a is activating without a job", manager, "13", "0/4 2*/4");
+        manager.advance(5);
+        CHECK.due("start() of what is activating", manager.start(0, false), 1);
+        stands("it is running", manager, "10", "1*/4 0/0");
+        CHECK.due("begins(a)", manager.begins(0), 2);
+        manager.advance(4);
+        stands("a is active", manager, "20", "0/0 0/0");
+        CHECK.due("since(a)", manager.since(0), 9);
+    }
+
     private static void runsAfterCancel() {
         ServiceManager manager = Check.made("service a startup 9;service b;service c;b after a;c after b");
         manager.start(0, false);
@@ -288,6 +311,7 @@ public final class QueueTest {
         cancelling();
         cancelsAStop();
         startOfWhatIsActive();
+        startOfWhatIsActivating();
         runsAfterCancel();
         failedByDependencies();
         requirements();

@@ -145,6 +145,7 @@ public final class TextTest {
         CHECK.due("everything after another text", Check.everything(manager),
             Check.everything(Check.made("service a; service b; socket s a 5")));
         CHECK.due("begins() after another text", manager.begins(0), 0);
+        CHECK.due("logEntry() after another text", manager.logEntry(0, 0), ServiceManager.NONE);
         manager = Check.made("service a run 2 restart always;socket s a 9;service b stopping 9;a after b;b after s;b requires a");
         manager.start(0, false);
         manager.start(1, false);
@@ -159,7 +160,16 @@ public final class TextTest {
         CHECK.due("allStopped() after a third text", manager.allStopped(0), 0b001);
         CHECK.due("allNeeded() after a third text", manager.allNeeded(2), 0);
         CHECK.due("orderingCircle() after a third text", manager.orderingCircle(), 0);
-        CHECK.due("logEntry() after another text", manager.logEntry(0, 0), ServiceManager.NONE);
+        manager = Check.made("service a;socket s a 2;target t;s after t");
+        manager.start(1, false);
+        manager.setMasked(0, true);
+        manager.connect(1, 9);
+        CHECK.due("lost() before", manager.lost(1), 7);
+        Check.reload(manager, "service a;socket s a 2;target t;s requires t");
+        CHECK.due("everything after a fourth text", Check.everything(manager),
+            Check.everything(Check.made("service a;socket s a 2;target t;s requires t")));
+        manager.start(1, false);
+        CHECK.due("planDepth() of a stop that is not ordered any more", manager.planDepth(2, 2), 1);
     }
 
     private static void loadErrors() {

@@ -528,6 +528,17 @@ public final class ServiceManager {
         return circles;
     }
 
+    /** The type of the job of a unit, where the starts are the jobs to start or to restart. */
+    private static int typeIn(int starts, int restarting, int stops, int unit) {
+        if ((stops >> unit & 1) != 0) {
+            return STOP;
+        }
+        if ((starts >> unit & 1) == 0) {
+            return NO_JOB;
+        }
+        return (restarting >> unit & 1) != 0 ? RESTART : START;
+    }
+
     /** The units as a text describes them; only another text changes them. */
     private static final class Setup {
 
@@ -1122,13 +1133,7 @@ public final class ServiceManager {
         }
 
         private int typeOf(int unit) {
-            if ((stops >> unit & 1) != 0) {
-                return STOP;
-            }
-            if ((starts >> unit & 1) == 0) {
-                return NO_JOB;
-            }
-            return (restarting >> unit & 1) != 0 ? RESTART : START;
+            return typeIn(starts, restarting, stops, unit);
         }
 
         /** The number of jobs in the longest chain. */
@@ -1210,13 +1215,7 @@ public final class ServiceManager {
         }
 
         private int typeOf(int unit) {
-            if ((stops >> unit & 1) != 0) {
-                return STOP;
-            }
-            if ((starts >> unit & 1) == 0) {
-                return NO_JOB;
-            }
-            return (restarting >> unit & 1) != 0 ? RESTART : START;
+            return typeIn(starts, restarting, stops, unit);
         }
 
         private boolean isWaiting(int unit) {
@@ -1266,7 +1265,7 @@ public final class ServiceManager {
         private static final int KEPT_BEGINS = 9;
         private static final int MOST_LOGGED = 60;
         private static final int LOG_PARTS = 3;
-        private static final int NO_TIME = Integer.MAX_VALUE;
+        private static final int NO_TIME = 2147483647;
 
         private final Setup setup = new Setup();
         private final Transaction transaction = new Transaction();
@@ -1461,7 +1460,7 @@ public final class ServiceManager {
         // ---- running jobs
 
         private void runJobs() {
-            // each round but the last one brings a job nearer to its end, in four steps at most
+            // each step brings a job nearer to its end, and none takes more than four
             for (int round = 0; round <= 4 * MOST_UNITS; round++) {
                 boolean happened = false;
                 for (int unit = 0; unit < setup.count; unit++) {
