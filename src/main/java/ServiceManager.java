@@ -1035,7 +1035,7 @@ public final class ServiceManager {
             stops = type == STOP ? 1 << unit : 0;
             // each round but the last one adds a job, and there are three for each unit
             for (int round = 0; round <= 3 * MOST_UNITS; round++) {
-                int before = starts;
+                int beforeStarts = starts;
                 int beforeRestarting = restarting;
                 int beforeStops = stops;
                 for (int puller = 0; puller < MOST_UNITS; puller++) {
@@ -1051,7 +1051,7 @@ public final class ServiceManager {
                         stops |= setup.followers[puller];
                     }
                 }
-                if (starts == before && restarting == beforeRestarting && stops == beforeStops) {
+                if (starts == beforeStarts && restarting == beforeRestarting && stops == beforeStops) {
                     break;
                 }
             }
