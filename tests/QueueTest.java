@@ -5,27 +5,9 @@ public final class QueueTest {
     private static final int WRONG_STATE = ServiceManager.WRONG_STATE;
     private static final Check CHECK = new Check();
 
-    /** Of each unit: the type of its job, a star if it is running, and the outcome of its latest job. */
-    private static String jobs(ServiceManager manager) {
-        StringBuilder jobs = new StringBuilder();
-        for (int unit = 0; unit < manager.unitCount(); unit++) {
-            jobs.append(unit == 0 ? "" : " ").append(manager.jobOf(unit)).append(manager.isRunning(unit) ? "*" : "");
-            jobs.append('/').append(manager.outcomeOf(unit));
-        }
-        return jobs.toString();
-    }
-
-    private static String states(ServiceManager manager) {
-        StringBuilder states = new StringBuilder();
-        for (int unit = 0; unit < manager.unitCount(); unit++) {
-            states.append(manager.stateOf(unit));
-        }
-        return states.toString();
-    }
-
     private static void stands(String what, ServiceManager manager, String states, String jobs) {
-        CHECK.due(what + ": states", states(manager), states);
-        CHECK.due(what + ": jobs", jobs(manager), jobs);
+        CHECK.due(what + ": states", Check.states(manager), states);
+        CHECK.due(what + ": jobs", Check.jobs(manager), jobs);
         int length = 0;
         for (int unit = 0; unit < manager.unitCount(); unit++) {
             length += manager.jobOf(unit) == 0 ? 0 : 1;

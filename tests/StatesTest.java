@@ -4,16 +4,6 @@ public final class StatesTest {
     private static final int NONE = ServiceManager.NONE;
     private static final Check CHECK = new Check();
 
-    /** The log, with time, unit and state of each entry. */
-    private static String log(ServiceManager manager) {
-        StringBuilder log = new StringBuilder();
-        for (int index = 0; index < manager.logSize(); index++) {
-            log.append(index == 0 ? "" : " ").append(manager.logEntry(index, 0)).append(':');
-            log.append(manager.logEntry(index, 1)).append(':').append(manager.logEntry(index, 2));
-        }
-        return log.toString();
-    }
-
     private static void sixStates() {
         ServiceManager manager = Check.made("service a;service b startup 5;target c;service d stopping 5;service e run 1 exit 1;"
             + "service f run 1 restart always delay 5;socket g a 1");
@@ -175,15 +165,15 @@ public final class StatesTest {
         CHECK.due("logSize() at first", manager.logSize(), 0);
         CHECK.due("logEntry(0, 0) of an empty log", manager.logEntry(0, 0), NONE);
         manager.start(1, false);
-        CHECK.due("the log of a start", log(manager), "0:0:1 0:1:1 0:1:2");
+        CHECK.due("the log of a start", Check.log(manager), "0:0:1 0:1:1 0:1:2");
         manager.advance(2);
         manager.start(0, false);
         manager.start(2, false);
         manager.advance(1);
-        CHECK.due("the log then", log(manager), "0:0:1 0:1:1 0:1:2 2:0:2 2:2:1 2:2:2 3:2:4");
+        CHECK.due("the log then", Check.log(manager), "0:0:1 0:1:1 0:1:2 2:0:2 2:2:1 2:2:2 3:2:4");
         manager.stop(0, false);
         manager.reset(2);
-        CHECK.due("the log of a stop", log(manager),
+        CHECK.due("the log of a stop", Check.log(manager),
             "0:0:1 0:1:1 0:1:2 2:0:2 2:2:1 2:2:2 3:2:4 3:0:3 3:1:3 3:1:0 3:2:0");
         for (int what = 0; what < 3; what++) {
             CHECK.due("logEntry(-1, " + what + ")", manager.logEntry(-1, what), NONE);

@@ -37,30 +37,6 @@ public final class TextTest {
         CHECK.due("append after it", manager.append(1), 1);
     }
 
-    /** The text stands with a ^ where the error is. */
-    private static void error(int number, String marked) {
-        int position = marked.indexOf('^');
-        String text = marked.substring(0, position) + marked.substring(position + 1);
-        ServiceManager manager = Check.made("service old startup 3; target older");
-        manager.start(0, false);
-        manager.advance(2);
-        String before = Check.everything(manager);
-        Check.write(manager, text);
-        CHECK.due("load() of \"" + text + "\"", manager.load(), -100 - position);
-        CHECK.due("loadError() of \"" + text + "\"", manager.loadError(), number);
-        CHECK.due("everything after \"" + text + "\"", Check.everything(manager), before);
-        CHECK.due("the buffer after \"" + text + "\"", manager.append('x'), 1);
-    }
-
-    private static void good(String text, int units) {
-        ServiceManager manager = new ServiceManager();
-        manager.load();
-        Check.write(manager, text);
-        CHECK.due("load() of \"" + text + "\"", manager.load(), units);
-        CHECK.due("loadError() of \"" + text + "\"", manager.loadError(), 0);
-        CHECK.due("unitCount() of \"" + text + "\"", manager.unitCount(), units);
-    }
-
     private static void errorsOfPlace() {
         String[] texts = {"^", "   ^", "service^", "service ^", "service a;^", "service a; ^", "^;service a", "service a;^;target b",
             "^Service a", "^services a", "^servicea", "^a", "^5", "service ^5", "service ^;", "service a ^5", "service a ^colour 5",
@@ -73,7 +49,7 @@ public final class TextTest {
             "target a; a ^5", "target a; a requires^", "target a; a requires ^7", "target a; target b; a requires b ^b",
             "target a; target b; a after b^,", "^\u00e4", "target a^\u00ff", "service a ^starT"};
         for (String text : texts) {
-            error(1, text);
+            CHECK.failsToRead(1, text);
         }
     }
 
@@ -82,12 +58,12 @@ public final class TextTest {
             "limit ^0 10", "limit ^10 10", "limit 5 ^0", "limit 5 ^1001", "idle ^1001", "startup ^99999999999999999999",
             "startup  ^4294967296", "startup ^2147483648", "run 5 run ^00001001", "limit ^0 0"};
         for (String property : properties) {
-            error(2, "service a " + property);
+            CHECK.failsToRead(2, "service a " + property);
         }
-        error(2, "service a; socket s a ^0");
-        error(2, "service a; socket s a ^51");
-        error(2, "service a startup ^101; bogus");
-        error(2, "service a startup5stopping^777run");
+        CHECK.failsToRead(2, "service a; socket s a ^0");
+        CHECK.failsToRead(2, "service a; socket s a ^51");
+        CHECK.failsToRead(2, "service a startup ^101; bogus");
+        CHECK.failsToRead(2, "service a startup5stopping^777run");
     }
 
     private static void errorsOfNames() {
@@ -97,7 +73,7 @@ public final class TextTest {
             "service a; socket s ^abcdefghi 5", "target a; a requires ^b", "target a; a requires ^a", "target a; a after ^a",
             "target a; a before ^a", "target a; a conflicts ^target", "target a; a wants ^abcdefghi", "target a; a requires ^requires"};
         for (String text : texts) {
-            error(3, text);
+            CHECK.failsToRead(3, text);
         }
     }
 
@@ -106,30 +82,30 @@ public final class TextTest {
         for (int unit = 1; unit < 16; unit++) {
             sixteen.append(";target ").append((char) ('a' + unit));
         }
-        good(sixteen.toString(), 16);
-        good(sixteen + "; a after p; p requires a", 16);
-        error(4, sixteen + ";^target q");
-        error(4, sixteen + ";  ^service q startup 101");
-        error(4, sixteen + ";^socket q a 5; bogus");
-        error(4, sixteen + ";a after p;^target a");
-        error(4, sixteen + ";^target abcdefghi");
-        error(4, sixteen + ";^target");
-        error(1, sixteen + ";^q");
+        CHECK.reads(sixteen.toString(), 16);
+        CHECK.reads(sixteen + "; a after p; p requires a", 16);
+        CHECK.failsToRead(4, sixteen + ";^target q");
+        CHECK.failsToRead(4, sixteen + ";  ^service q startup 101");
+        CHECK.failsToRead(4, sixteen + ";^socket q a 5; bogus");
+        CHECK.failsToRead(4, sixteen + ";a after p;^target a");
+        CHECK.failsToRead(4, sixteen + ";^target abcdefghi");
+        CHECK.failsToRead(4, sixteen + ";^target");
+        CHECK.failsToRead(1, sixteen + ";^q");
     }
 
     private static void goodTexts() {
-        good("service a", 1);
-        good("  service  a  ;  target  b  ", 2);
-        good("service abcdefgh", 1);
-        good("service a startup5stopping 7run8 restart always", 1);
-        good("service a startup 0 stopping 0 run 0 exit 0 fails 0 delay 1 limit 1 1 idle 0", 1);
-        good("service a startup 100 stopping 100 run 1000 exit 255 fails 9 delay 100 limit 9 1000 idle 1000", 1);
-        good("service a startup 0000000000000000000000100", 1);
-        good("service a;socket b a 1;socket c a 50", 3);
-        good("service startup startup 5; target requires; startup requires requires; requires after startup", 2);
-        good("target never;target always;never before always;always conflicts never;never wants always;"
+        CHECK.reads("service a", 1);
+        CHECK.reads("  service  a  ;  target  b  ", 2);
+        CHECK.reads("service abcdefgh", 1);
+        CHECK.reads("service a startup5stopping 7run8 restart always", 1);
+        CHECK.reads("service a startup 0 stopping 0 run 0 exit 0 fails 0 delay 1 limit 1 1 idle 0", 1);
+        CHECK.reads("service a startup 100 stopping 100 run 1000 exit 255 fails 9 delay 100 limit 9 1000 idle 1000", 1);
+        CHECK.reads("service a startup 0000000000000000000000100", 1);
+        CHECK.reads("service a;socket b a 1;socket c a 50", 3);
+        CHECK.reads("service startup startup 5; target requires; startup requires requires; requires after startup", 2);
+        CHECK.reads("target never;target always;never before always;always conflicts never;never wants always;"
             + "never binds always;never partof always", 2);
-        good("target a; target b; a requires b; a requires b", 2);
+        CHECK.reads("target a; target b; a requires b; a requires b", 2);
     }
 
     private static void beginsAnew() {

@@ -5,17 +5,9 @@ public final class TimeTest {
     private static final int WRONG_STATE = ServiceManager.WRONG_STATE;
     private static final Check CHECK = new Check();
 
-    private static String states(ServiceManager manager) {
-        StringBuilder states = new StringBuilder();
-        for (int unit = 0; unit < manager.unitCount(); unit++) {
-            states.append(manager.stateOf(unit));
-        }
-        return states.toString();
-    }
-
     private static void stands(String what, ServiceManager manager, int time, String states) {
         CHECK.due(what + ": time()", manager.time(), time);
-        CHECK.due(what + ": states", states(manager), states);
+        CHECK.due(what + ": states", Check.states(manager), states);
     }
 
     /** State, result, exit code, since and dueAt of a unit. */

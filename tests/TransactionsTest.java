@@ -7,11 +7,7 @@ public final class TransactionsTest {
     private static final Check CHECK = new Check();
 
     private static ServiceManager targets(int count, String relations) {
-        StringBuilder text = new StringBuilder("target a");
-        for (int unit = 1; unit < count; unit++) {
-            text.append(";target ").append((char) ('a' + unit));
-        }
-        return Check.made(text + relations);
+        return Check.made(Check.targets(count, relations));
     }
 
     /** The jobs of a plan: to start, to stop, to restart, and the essential ones. */

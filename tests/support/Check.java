@@ -42,6 +42,51 @@ final class Check {
         return manager.find();
     }
 
+    /** A text that is read, and how many units it has. */
+    void reads(String text, int units) {
+        ServiceManager manager = new ServiceManager();
+        write(manager, text);
+        due("load() of \"" + text + "\"", manager.load(), units);
+        due("loadError() of \"" + text + "\"", manager.loadError(), 0);
+        due("unitCount() of \"" + text + "\"", manager.unitCount(), units);
+    }
+
+    /** A text with an error, which stands with a ^ where the error is. */
+    void failsToRead(int error, String marked) {
+        int position = marked.indexOf('^');
+        String text = marked.substring(0, position) + marked.substring(position + 1);
+        ServiceManager manager = made("service old startup 3;target older");
+        manager.start(0, false);
+        manager.advance(2);
+        String before = everything(manager);
+        write(manager, text);
+        due("load() of \"" + text + "\"", manager.load(), -100 - position);
+        due("loadError() of \"" + text + "\"", manager.loadError(), error);
+        due("everything after \"" + text + "\"", everything(manager), before);
+        due("the buffer after \"" + text + "\"", manager.append(0), 0);
+    }
+
+    /** A call that is refused with this answer, and changes nothing. */
+    void refused(String what, ServiceManager manager, IntSupplier call, int want) {
+        String before = whole(manager);
+        due(what, call.getAsInt(), want);
+        due(what + " changes nothing", whole(manager), before);
+    }
+
+    /** A unit that does not exist: the call changes nothing. */
+    void noSuchUnit(String what, ServiceManager manager, IntSupplier call) {
+        String before = whole(manager);
+        noSuchUnit(what, call);
+        due(what + " changes nothing", whole(manager), before);
+    }
+
+    /** An argument out of its range: the call changes nothing. */
+    void outOfRange(String what, ServiceManager manager, IntSupplier call) {
+        String before = whole(manager);
+        outOfRange(what, call);
+        due(what + " changes nothing", whole(manager), before);
+    }
+
     void due(String what, long got, long want) {
         done++;
         if (got != want) {
@@ -86,6 +131,56 @@ final class Check {
         System.out.println(what + " " + got + ", due is " + kind.getSimpleName());
     }
 
+    /** As many targets, named from a on, and then these relations. */
+    static String targets(int count, String relations) {
+        StringBuilder text = new StringBuilder("target a");
+        for (int unit = 1; unit < count; unit++) {
+            text.append(";target ").append((char) ('a' + unit));
+        }
+        return text + relations;
+    }
+
+    /** The states of all units, a digit each. */
+    static String states(ServiceManager manager) {
+        StringBuilder states = new StringBuilder();
+        for (int unit = 0; unit < manager.unitCount(); unit++) {
+            states.append(manager.stateOf(unit));
+        }
+        return states.toString();
+    }
+
+    /** Of each unit: the type of its job, a star if it is running, and the outcome of its latest job. */
+    static String jobs(ServiceManager manager) {
+        StringBuilder jobs = new StringBuilder();
+        for (int unit = 0; unit < manager.unitCount(); unit++) {
+            jobs.append(unit == 0 ? "" : " ").append(manager.jobOf(unit)).append(manager.isRunning(unit) ? "*" : "");
+            jobs.append('/').append(manager.outcomeOf(unit));
+        }
+        return jobs.toString();
+    }
+
+    /** The log, with time, unit and state of each entry. */
+    static String log(ServiceManager manager) {
+        StringBuilder log = new StringBuilder();
+        for (int index = 0; index < manager.logSize(); index++) {
+            log.append(index == 0 ? "" : " ").append(manager.logEntry(index, 0)).append(':');
+            log.append(manager.logEntry(index, 1)).append(':').append(manager.logEntry(index, 2));
+        }
+        return log.toString();
+    }
+
+    /** Lets time pass by calls of at most 1000 ticks. */
+    static void letPass(ServiceManager manager, int ticks) {
+        for (int left = ticks; left > 0; left -= 1000) {
+            manager.advance(Math.min(left, 1000));
+        }
+    }
+
+    /** Everything that the object tells without changing, the buffer and the latest load() too. */
+    static String whole(ServiceManager manager) {
+        return everything(manager) + "\nbuffer " + manager.append(0) + " error " + manager.loadError();
+    }
+
     /** Everything that the object tells without changing, but for the latest result of load(). */
     static String everything(ServiceManager manager) {
         StringBuilder all = new StringBuilder();
@@ -94,12 +189,7 @@ final class Check {
         for (int unit = 0; unit < count; unit++) {
             all.append('\n').append(configured(manager, unit)).append('\n').append(lived(manager, unit));
         }
-        all.append("\nlog");
-        for (int index = 0; index < manager.logSize(); index++) {
-            all.append(' ').append(manager.logEntry(index, 0)).append(':').append(manager.logEntry(index, 1));
-            all.append(':').append(manager.logEntry(index, 2));
-        }
-        return all.toString();
+        return all.append("\nlog ").append(log(manager)).toString();
     }
 
     private static String configured(ServiceManager manager, int unit) {
