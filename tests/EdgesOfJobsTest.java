@@ -693,6 +693,24 @@ public final class EdgesOfJobsTest {
         }
     }
 
+    /** Section 4: "A job ... that a unit has when it exits": one that was cancelled before is none, and the policy holds. */
+    private static void cancelledBeforeAnExit() {
+        for (int type = START; type <= RESTART; type++) {
+            ServiceManager manager = behindAStop("service a restart always", true);
+            if (type == RESTART) {
+                manager.restart(1, false);
+            } else {
+                manager.stop(1, false);
+            }
+            if (type == START) {
+                manager.start(1, true);
+            }
+            CHECK.due("the job", manager.jobOf(1), type);
+            manager.cancel(1);
+            CHECK.due("kill() after a cancelled job " + type, manager.kill(1, 0), 5);
+        }
+    }
+
     /** Section 4: a job to start that an active unit has when it exits stays, and the policy holds. */
     private static void startAtAnExit() {
         ServiceManager manager = behindAStop("service a restart failure", true);
@@ -719,10 +737,11 @@ public final class EdgesOfJobsTest {
         stands("six wait", manager, "1000000", "1*/-1 1/-1 1/-1 1/-1 1/-1 1/-1 1/-1");
         manager.advance(9);
         stands("b, c and g fail", manager, "4002220", "0/1 0/2 0/2 0/0 0/0 0/0 0/2");
-        manager = Check.made("target a;service b startup 9 fails 1;a requires b;a after b");
+        manager = Check.made("target a;service b startup 9 fails 1;a requires b;a after b;service x startup 50;a after x");
+        manager.start(2, false);
         manager.start(0, false);
         manager.advance(9);
-        stands("a unit before it fails, too", manager, "04", "0/2 0/1");
+        stands("a unit before it fails at once, though it waits for x, too", manager, "041", "0/2 0/1 1*/-1");
     }
 
     /** Section 4: "all waiting jobs to start or restart": a restart fails, too; running jobs and jobs to stop do not. */
@@ -990,6 +1009,7 @@ public final class EdgesOfJobsTest {
         boundStopFails();
         stopAtAnExit();
         restartAtAnExit();
+        cancelledBeforeAnExit();
         startAtAnExit();
         whatNeedsItFails();
         onlyWaitingJobsFail();

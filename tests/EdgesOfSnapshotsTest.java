@@ -124,26 +124,30 @@ public final class EdgesOfSnapshotsTest {
         CHECK.due("the begins of the last 9 ticks then", manager.recentBegins(2), 0);
     }
 
-    /** Promise 53: "everything": the times of nine begins. */
+    /** Promise 53: "everything": the times of nine begins, of the first unit and of the last one. */
     private static void timesOfBegins() {
-        ServiceManager manager = Check.made("service a limit 9 1000");
+        timesOfBegins(Check.made("service a limit 9 1000"), 0);
+        timesOfBegins(Check.made(Check.targets(15, ";service p limit 9 1000")), 15);
+    }
+
+    private static void timesOfBegins(ServiceManager manager, int unit) {
         manager.saveSnapshot(0);
         for (int begin = 0; begin < 9; begin++) {
             manager.advance(100);
-            manager.restart(0, false);
+            manager.restart(unit, false);
         }
         manager.saveSnapshot(1);
         manager.restoreSnapshot(0);
         manager.advance(50);
         for (int begin = 0; begin < 9; begin++) {
-            manager.restart(0, false);
+            manager.restart(unit, false);
         }
         manager.restoreSnapshot(1);
         manager.advance(199);
-        CHECK.due("all nine", manager.recentBegins(0), 9);
+        CHECK.due("all nine", manager.recentBegins(unit), 9);
         for (int gone = 1; gone <= 9; gone++) {
             manager.advance(1);
-            CHECK.due("after " + gone, manager.recentBegins(0), 9 - gone);
+            CHECK.due("after " + gone, manager.recentBegins(unit), 9 - gone);
             manager.advance(99);
         }
     }

@@ -679,6 +679,12 @@ public final class EdgesOfTextTest {
         }
         CHECK.due("orderingCircle()", manager.orderingCircle(), 0);
         CHECK.due("all are active", manager.inState(2), 0b111);
+        manager = Check.made("target a;target b;b requires a;b after a");
+        manager.start(1, false);
+        CHECK.due("planDepth() with an order", manager.planDepth(0, 2), 2);
+        Check.reload(manager, "target a;target b;b requires a");
+        manager.start(1, false);
+        CHECK.due("planDepth() without it", manager.planDepth(0, 2), 1);
     }
 
     /** Promise 3: the same text again begins anew, too: the activations for fails are forgotten. */

@@ -402,6 +402,8 @@ public final class EdgesOfTransactionsTest {
         planned("the greatest one is in no cycle", manager, 0, START, 0b1001, 0, 0, 0b0001);
         manager = targets(16, ";a wants o;a wants p;o after p;p after o");
         planned("the last unit", manager, 0, START, 0x4001, 0, 0, 0x0001);
+        manager = targets(16, ";a wants n;a wants o;n after o;o after n");
+        planned("the last unit but one", manager, 0, START, 0x2001, 0, 0, 0x0001);
         manager = targets(3, ";c wants a;c after a;a after c");
         planned("the first unit", manager, 2, START, 0b100, 0, 0, 0b100);
     }
