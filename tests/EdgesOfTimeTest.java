@@ -325,6 +325,39 @@ public final class EdgesOfTimeTest {
         CHECK.due("accepted()", manager.accepted(3), 0);
     }
 
+    /** Section 5: "Every call that changes jobs or units (start, stop, restart, cancel, connect, kill, reset) ends with running jobs". */
+    private static void everyCallRunsJobs() {
+        String text = "service a startup 9;target b;b after a;socket s a 5";
+        ServiceManager manager = Check.made(text);
+        manager.start(1, false);
+        CHECK.due("start() runs its job", manager.stateOf(1), 2);
+        manager.restart(1, false);
+        CHECK.due("restart() runs its job", manager.begins(1), 2);
+        manager.stop(1, false);
+        CHECK.due("stop() runs its job", manager.stateOf(1), 0);
+        manager.start(2, false);
+        manager.connect(2, 1);
+        CHECK.due("connect() runs the job of the service", manager.stateOf(0), 1);
+        manager.start(1, false);
+        CHECK.due("b waits for a", manager.stateOf(1), 0);
+        manager.kill(0, 0);
+        CHECK.due("kill() runs the job of b", manager.stateOf(1), 2);
+        manager = Check.made(text);
+        manager.start(0, false);
+        manager.start(1, false);
+        manager.stop(0, true);
+        CHECK.due("stop() runs the job of b", manager.stateOf(1), 2);
+        manager = Check.made(text + ";target x;a after x;x after b");
+        manager.start(0, false);
+        manager.start(1, false);
+        manager.start(3, false);
+        CHECK.due("x waits for b", Check.states(manager), "1000");
+        CHECK.due("cancel() of b", manager.cancel(1), 1);
+        CHECK.due("cancel() runs the job of x", manager.stateOf(3), 2);
+        manager.stop(0, true);
+        CHECK.due("reset() leaves a queue in which nothing can run", manager.reset(0) ? manager.queueLength() : NONE, 0);
+    }
+
     /** Section 5: "Every call that changes jobs or units (..., connect, ...) ends with running jobs": once, after all connections. */
     private static void jobsRunAtTheEnd() {
         ServiceManager manager = Check.made("service a;socket s a 2");
@@ -588,6 +621,7 @@ public final class EdgesOfTimeTest {
         startFails();
         allSockets();
         dropped();
+        everyCallRunsJobs();
         jobsRunAtTheEnd();
     }
 
