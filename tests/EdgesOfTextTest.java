@@ -539,6 +539,31 @@ public final class EdgesOfTextTest {
         CHECK.due("no byte to 800", filled(800).append(0), 800);
     }
 
+    private static String padded(String text) {
+        StringBuilder padded = new StringBuilder();
+        for (int spaces = text.length(); spaces < 800; spaces++) {
+            padded.append(' ');
+        }
+        return padded + text;
+    }
+
+    /** Promises 2 and 3: a text of 800 bytes may end with a name, a word or a number at its last byte. */
+    private static void lastByteOfFullBuffer() {
+        CHECK.reads(padded("target a"), 1);
+        CHECK.reads(padded("target abcdefgh"), 1);
+        CHECK.reads(padded("target abcdefgh;target b;b after abcdefgh"), 2);
+        CHECK.reads(padded("service a;socket s a 50"), 2);
+        CHECK.reads(padded("service a restart always"), 1);
+        CHECK.reads(padded("service a startup 100"), 1);
+        CHECK.reads(padded("target a;target b;a before b"), 2);
+        CHECK.failsToRead(2, padded("service a startup 101").replace(" 101", " ^101"));
+        CHECK.failsToRead(3, padded("target a;target b").replace("target b", "target ^a"));
+        CHECK.failsToRead(3, padded("target abcdefghi").replace("target ", "target ^"));
+        CHECK.failsToRead(1, padded("target a;a after") + "^");
+        CHECK.failsToRead(1, padded("target a;target") + "^");
+        CHECK.failsToRead(1, padded("service a startup") + "^");
+    }
+
     /** Promise 2 and section 6: a call that answers FULL changes nothing: not a part of its bytes is appended. */
     private static void fullBufferChangesNothing() {
         ServiceManager manager = filled(796);
@@ -833,6 +858,7 @@ public final class EdgesOfTextTest {
         mostSignificantFirst();
         zerosAreLeftOut();
         bufferLength();
+        lastByteOfFullBuffer();
         fullBufferChangesNothing();
         answersNumberOfUnits();
         answersPosition();
